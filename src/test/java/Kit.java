@@ -1,0 +1,81 @@
+/** What the tests share: a tally of wrong answers, and texts brought to the tape. */
+final class Kit {
+    private static int wrong = 0;
+    private static int looked = 0;
+
+    private Kit() {
+    }
+
+    static void due(String call, long got, long want) {
+        looked++;
+        if (got != want) {
+            wrong++;
+            if (wrong <= 40) {
+                System.out.println(call + " answered " + got + ", due is " + want);
+            }
+        }
+    }
+
+    static void due(String call, boolean got, boolean want) {
+        due(call, got ? 1 : 0, want ? 1 : 0);
+    }
+
+    static boolean allWell() {
+        return wrong == 0;
+    }
+
+    static void finish() {
+        System.out.println(wrong == 0 ? looked + " answers are as due" : wrong + " answers of " + looked + " are not as due");
+        if (wrong != 0) {
+            System.exit(1);
+        }
+    }
+
+    /** Five numbers that bring the twenty bytes of a text from a place on, blanks behind its end. */
+    static int[] twenty(String text, int from) {
+        int[] five = new int[5];
+        for (int i = 0; i < 20; i++) {
+            int sign = from + i < text.length() ? text.charAt(from + i) : ' ';
+            five[i / 4] = five[i / 4] << 8 | sign;
+        }
+        return five;
+    }
+
+    /** The tape is this text alone. */
+    static void write(AskedNames x, String text) {
+        x.end(0);
+        for (int i = 0; i < text.length(); i += 20) {
+            int[] five = twenty(text, i);
+            x.feed(five[0], five[1], five[2], five[3], five[4]);
+        }
+        x.end(text.length());
+    }
+
+    static int tell(AskedNames x, int sort, String text) {
+        write(x, text);
+        return x.text(sort, -1);
+    }
+
+    static AskedNames told(String net, String run) {
+        AskedNames x = new AskedNames();
+        due("net: " + net, tell(x, 0, net), 0);
+        due("run: " + run, tell(x, 1, run), 0);
+        return x;
+    }
+
+    static void fault(int sort, String text, int number, int place) {
+        AskedNames x = new AskedNames();
+        due("text of " + text, tell(x, sort, text), number == 0 ? 0 : -1);
+        due("fault of " + text, x.fault(0), number);
+        due("place in " + text, x.fault(1), number == 0 ? -1 : place);
+        due("count behind " + text, x.count(sort), number == 0 ? 1 : 0);
+    }
+
+    static int name(String letters) {
+        int number = 0;
+        for (char c : letters.toCharArray()) {
+            number = number * 27 + c - 'a' + 1;
+        }
+        return number;
+    }
+}
