@@ -1,8 +1,10 @@
+import java.util.HashSet;
 import java.util.Random;
+import java.util.Set;
 
 /** The class and the model get the same drawn texts and questions, and must answer alike. */
 public final class ModelTest {
-    private static final int ROUNDS = 1500;
+    private static final int ROUNDS = 1000;
 
     private final Random random;
     private final AskedNames x = new AskedNames();
@@ -33,6 +35,7 @@ public final class ModelTest {
         for (int i = 0; i < 2; i++) {
             tell(2, -1, spoil(logText()));
         }
+        lookAtAll();
         ask(120);
         image(random.nextInt(4) - 1);
         int sort = random.nextInt(5) - 1;
@@ -96,7 +99,7 @@ public final class ModelTest {
     }
 
     private String word() {
-        String[] words = {"a", "a", "a", "ab", "ab", "abc", "b", "ba", "abca", "abaa", "aa", "aab"};
+        String[] words = {"a", "a", "a", "a", "ab", "ab", "ab", "abc", "b", "abca", "aa", "aab"};
         return random.nextInt(60) == 0 ? "abcde" : words[random.nextInt(words.length)];
     }
 
@@ -105,9 +108,53 @@ public final class ModelTest {
     }
 
     private String netText() {
+        return random.nextInt(3) == 0 ? looseNet() : livelyNet();
+    }
+
+    /** Many ways for few names along links that are there, so that messages meet, turn back and go round. */
+    private String livelyNet() {
+        int nodes = 2 + random.nextInt(5);
+        int slow = 1 + random.nextInt(9);
+        String[] words = random.nextBoolean() ? new String[] {"a"} : new String[] {"a", "a", "ab"};
+        StringBuilder s = new StringBuilder("nodes " + nodes + ";");
+        if (random.nextInt(3) != 0) {
+            s.append("life ").append(1 + random.nextInt(30)).append(";");
+        }
+        for (int a = 0; a < nodes; a++) {
+            int more = random.nextInt(3);
+            s.append(link(a, (a + 1) % nodes, slow));
+            for (int i = 0; i < more; i++) {
+                s.append(link(a, random.nextInt(nodes), slow));
+            }
+        }
+        int routes = 6 + random.nextInt(7);
+        for (int i = 0; i < routes; i++) {
+            int a = i < nodes ? i : random.nextInt(nodes);
+            int b = random.nextInt(3) == 0 ? random.nextInt(nodes) : (a + 1) % nodes;
+            if (a != b) {
+                s.append("route ").append(a).append(gap()).append(words[random.nextInt(words.length)]).append(" ");
+                s.append(b).append(" ").append(random.nextInt(random.nextBoolean() ? 3 : 30)).append(";");
+            }
+        }
+        int serves = random.nextInt(3);
+        for (int i = 0; i < serves; i++) {
+            s.append("serve ").append(random.nextInt(nodes)).append(" ").append(words[random.nextInt(words.length)]);
+            s.append(" ").append(random.nextInt(30)).append(";");
+        }
+        for (int i = random.nextInt(3); i > 0; i--) {
+            s.append("room ").append(random.nextInt(nodes)).append(" ").append(random.nextInt(5)).append(";");
+        }
+        return s.length() > 590 ? looseNet() : s.toString();
+    }
+
+    private String link(int a, int b, int slow) {
+        return a == b ? "" : "link " + a + gap() + b + gap() + (1 + random.nextInt(slow)) + ";";
+    }
+
+    private String looseNet() {
         StringBuilder s = new StringBuilder();
         int nodes = 1 + random.nextInt(6);
-        s.append("nodes").append(gap()).append(nodes).append(";");
+        s.append("nodes").append(gap()).append(nodes - (random.nextInt(20) == 0 ? 1 : 0)).append(";");
         int slow = 1 + random.nextInt(9);
         if (random.nextBoolean()) {
             s.append("life ").append(1 + random.nextInt(random.nextBoolean() ? 12 : 40)).append(";");
@@ -138,6 +185,7 @@ public final class ModelTest {
         StringBuilder s = new StringBuilder();
         int lines = random.nextInt(41);
         int hasty = 1 + random.nextInt(8);
+        Set<String> down = new HashSet<>();
         for (int i = 0; i < lines; i++) {
             int a = random.nextInt(m.net(0, 0) > 0 && random.nextInt(20) != 0 ? m.net(0, 0) : 6);
             int kind = random.nextInt(20);
@@ -149,7 +197,7 @@ public final class ModelTest {
             } else if (kind < 18) {
                 line = "wait " + (1 + random.nextInt(hasty)) + ";";
             } else {
-                line = cutOrMend();
+                line = cutOrMend(down);
             }
             if (s.length() + line.length() < 596) {
                 s.append(line);
@@ -158,15 +206,22 @@ public final class ModelTest {
         return s.toString();
     }
 
-    private String cutOrMend() {
+    private String cutOrMend(Set<String> down) {
         int a = random.nextInt(6);
         int b = (a + 1 + random.nextInt(5)) % 6;
         // Mostly links that are there, so that runs go on.
-        for (int i = 0; i < 30 && m.net(0, 100 + 10 * a + b) < 0; i++) {
+        for (int i = 0; i < 60 && m.net(0, 100 + 10 * a + b) < 0; i++) {
             a = random.nextInt(6);
             b = (a + 1 + random.nextInt(5)) % 6;
         }
-        return (random.nextInt(4) != 0 ? "cut " : "mend ") + a + " " + b + ";";
+        String link = Math.min(a, b) + " " + Math.max(a, b);
+        boolean cut = random.nextInt(25) == 0 ? random.nextBoolean() : !down.contains(link);
+        if (cut) {
+            down.add(link);
+        } else {
+            down.remove(link);
+        }
+        return (cut ? "cut " : "mend ") + a + gap() + b + ";";
     }
 
     private String logText() {
@@ -184,6 +239,40 @@ public final class ModelTest {
             }
         }
         return s.toString();
+    }
+
+    /** Every answer of one run, and of some of its states. */
+    private void lookAtAll() {
+        int net = random.nextInt(Math.max(1, m.count(0)));
+        int run = random.nextInt(Math.max(1, m.count(1)));
+        int stop = m.stop(net, run);
+        for (int what = -1; what < 10; what++) {
+            due("after " + net + ", " + run + ", " + what, x.after(net, run, what), m.after(net, run, what));
+        }
+        for (int k = 0; k <= stop; k++) {
+            for (int what = -1; what < 8; what++) {
+                due("why " + net + ", " + run + ", " + k + ", " + what, x.why(net, run, k, what), m.why(net, run, k, what));
+            }
+        }
+        for (int i = 0; i < 3 && stop >= 0; i++) {
+            lookAtState(net, run, random.nextInt(stop + 1));
+        }
+    }
+
+    private void lookAtState(int net, int run, int n) {
+        String on = net + ", " + run + ", " + n + ", ";
+        for (int what = -1; what < 160; what++) {
+            due("state " + on + what, x.state(net, run, n, what), m.state(net, run, n, what));
+        }
+        for (int node = 0; node < 6; node++) {
+            for (int i = 0; i < 3; i++) {
+                for (int what = -1; what < 9; what++) {
+                    String at = on + node + ", " + i + ", " + what;
+                    due("entry " + at, x.entry(net, run, n, node, i, what), m.entry(net, run, n, node, i, what));
+                    due("stored " + at, x.stored(net, run, n, node, i, what), m.stored(net, run, n, node, i, what));
+                }
+            }
+        }
     }
 
     private int some(int most) {
