@@ -22,6 +22,7 @@ public final class RunsTest {
         loopByDead();
         runOut();
         stores();
+        noDoubles();
         noRoom();
         freshness();
         oneForBothWishes();
@@ -31,6 +32,9 @@ public final class RunsTest {
         noWayIsNotDead();
         lostOnTheWayBack();
         cutBehindSending();
+        lateAnswers();
+        firstNonceGoesOn();
+        serverIsKept();
         mean();
         Kit.finish();
     }
@@ -248,6 +252,13 @@ public final class RunsTest {
         why(x, 8, 1, 28, 1, 0, NONE, NONE, NONE);
     }
 
+    private static void noDoubles() {
+        AskedNames x = Kit.told(PAIR + "room 0 4;", "ask 0 a;wait 2;ask 0 ab;wait 20;fresh 0 a;wait 2;");
+        due("names", x.state(0, 0, 6, 20), 2);
+        stored(x, 6, 0, 0, Kit.name("ab"), 12, 1);
+        stored(x, 6, 0, 1, Kit.name("a"), 32, 1);
+    }
+
     private static void noRoom() {
         AskedNames x = Kit.told(PAIR + "room 0 0;", "ask 0 a;wait 2;ask 0 a;wait 2;");
         due("nothing is kept", x.state(0, 0, 2, 20), 0);
@@ -264,6 +275,8 @@ public final class RunsTest {
         why(x, 0, 1, 2, 1, 0, NONE, NONE, NONE);
         why(x, 1, 3, 9, NONE, NONE, NONE, NONE, NONE);
         after(x, 4, 0, 0, 0, 1, 0, 2, 2, 1);
+        AskedNames w = Kit.told("nodes 2;link 0 1 1;route 0 a 1 0;serve 1 a 1;", "fresh 0 a;wait 2;");
+        why(w, 0, 1, 2, 1, 0, NONE, NONE, NONE);
         // At the server itself they are fresh.
         AskedNames y = Kit.told("nodes 2;serve 1 a 0;", "fresh 1 a;");
         why(y, 0, 1, 0, 1, 0, NONE, NONE, NONE);
@@ -347,6 +360,37 @@ public final class RunsTest {
         AskedNames x = Kit.told("nodes 2;link 0 1 3;route 0 a 1 0;serve 1 a 1;", "ask 0 a;wait 3;cut 0 1;wait 3;");
         due("it comes though its link is cut", x.why(0, 0, 0, 1), 6);
         due("no link that is up", Kit.told(PAIR, "cut 0 1;ask 0 a;").why(0, 0, 1, 5), 1);
+    }
+
+    private static void lateAnswers() {
+        // A refusal from a node that is no longer the way out changes nothing.
+        String net = "life 4;link 0 1 3;link 0 2 9;route 0 a 1 0;route 0 a 2 2;";
+        AskedNames x = Kit.told(net, "ask 0 a;wait 4;ask 0 a;wait 2;wait 2;");
+        entry(x, 3, 0, 0, 1, 0, 0, 1, 2, 4, 4, 8);
+        due("the refusal has come", x.state(0, 0, 4, 1), 1);
+        entry(x, 4, 0, 0, 1, 0, 0, 1, 2, 4, 4, 8);
+        why(x, 0, 3, 4, NONE, NONE, NONE, NONE, NONE);
+        why(x, 2, 3, 8, NONE, NONE, NONE, NONE, NONE);
+        // Data from such a node are taken, but nothing is measured by them.
+        AskedNames y = Kit.told(net + "serve 1 a 9;", "ask 0 a;wait 4;ask 0 a;wait 2;");
+        why(y, 2, 1, 6, 1, 0, NONE, NONE, NONE);
+        due("measured of 1", y.state(0, 0, 4, 101), 4);
+        due("measured of 2", y.state(0, 0, 4, 102), NONE);
+    }
+
+    private static void firstNonceGoesOn() {
+        // At 2 the second ask comes first; with its nonce the interest that goes round to 0 is no loop there.
+        AskedNames x = Kit.told("nodes 5;life 60;link 0 2 9;link 1 2 1;link 2 3 9;link 2 4 1;link 4 0 1;"
+            + "route 0 a 2 0;route 1 a 2 0;route 2 a 3 0;route 2 a 4 5;route 4 a 0 0;", "ask 0 a;ask 1 a;wait 20;wait 1;");
+        entry(x, 4, 0, 0, 1, 0, 16, 1, 2, 4, 0, 60);
+        entry(x, 4, 2, 0, 1, 0, 3, 0, 4, 24, 19, 61);
+        after(x, 6, 0, 2, 0, 0, 0, 4, NONE, NONE);
+    }
+
+    private static void serverIsKept() {
+        AskedNames x = Kit.told("link 0 1 1;link 1 2 1;route 0 a 1 0;route 1 a 2 0;serve 2 a 9;", "ask 1 a;wait 2;ask 0 a;wait 2;");
+        stored(x, 4, 0, 0, 1, 10, 2);
+        why(x, 2, 1, 4, 1, 1, NONE, NONE, NONE);
     }
 
     private static void mean() {

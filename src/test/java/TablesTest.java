@@ -76,6 +76,7 @@ public final class TablesTest {
         due("rows", y.table(0, 0, 0), 8);
         due("routes", y.table(0, 0, 1), 5);
         due("rows", y.table(0, 1, 0), 2);
+        due("rows of another node count not", of("route 1 ab 0 0;route 0 ab 1 0;").table(0, 0, 0), 2);
         due("what 2", x.table(0, 0, 2), NONE);
         due("what -1", x.table(0, 0, -1), NONE);
         due("node 4", x.table(0, 4, 0), NONE);
@@ -303,6 +304,11 @@ public final class TablesTest {
             due("drawn entries", x.drawn(0, seed, asks, 2), entries.size());
             due("drawn messages", x.drawn(0, seed, asks, 1), entries.size());
             due("drawn entries at 0", x.drawn(0, seed, asks, 10), entries.size());
+        }
+        // A name of four letters gets no fifth one.
+        AskedNames y = of("nodes 2;life 99;link 0 1 9;route 0 abcd 1 0;serve 1 abcd 1;");
+        for (int seed = 0; seed < 300; seed++) {
+            Kit.due("drawn entries of one name", y.drawn(0, seed, 60, 10) <= 2, true);
         }
     }
 
