@@ -91,6 +91,9 @@ public final class AskedNames {
     }
 
     public int text(int sort, int at) {
+        // The tape is taken even where there is no place for its text.
+        int length = told.length;
+        told.length = 0;
         told.fault = 0;
         told.place = NONE;
         if (sort < 0 || sort >= SORTS) {
@@ -102,8 +105,7 @@ public final class AskedNames {
         if (!further && !instead) {
             return NO_SUCH;
         }
-        reader.read(told.tape, told.length, sort);
-        told.length = 0;
+        reader.read(told.tape, length, sort);
         told.fault = reader.fault;
         told.place = reader.place;
         if (reader.fault != 0) {

@@ -174,6 +174,8 @@ final class Model {
     }
 
     int text(int sort, int at) {
+        List<Token> tokens = tokens();
+        tape = new ArrayList<>();
         fault = 0;
         place = -1;
         if (sort < 0 || sort > 2) {
@@ -182,8 +184,6 @@ final class Model {
         if (at == -1 ? count(sort) == 2 : at < 0 || at >= count(sort)) {
             return -2;
         }
-        List<Token> tokens = tokens();
-        tape = new ArrayList<>();
         Map<String, String> forms = sort == 0 ? NET_LINES : sort == 1 ? RUN_LINES : LOG_LINES;
         List<List<Token>> lines = new ArrayList<>();
         int wrong = grammar(tokens, forms, lines);

@@ -72,6 +72,21 @@ public final class TextsTest {
         due("its place", x.fault(1), 0);
     }
 
+    /** Where there is no place for a text, the tape is empty behind it all the same, and no FAULT is told. */
+    private static void refused(AskedNames x, String why, int sort, int at) {
+        int[] have = {x.count(0), x.count(1), x.count(2)};
+        Kit.write(x, "bad");
+        due(why, x.text(sort, at), -2);
+        due("FAULT 0 behind -2", x.fault(0), 0);
+        due("no place behind -2", x.fault(1), NONE);
+        due("the tape is empty behind -2", x.end(1), NONE);
+        due("the tape goes on from its beginning", x.feed(0, 0, 0, 0, 0), 20);
+        due("an empty tape", x.end(0), 0);
+        for (int s = 0; s < have.length; s++) {
+            due("nothing is told behind -2", x.count(s), have[s]);
+        }
+    }
+
     private static void textsAndPlaces() {
         AskedNames x = new AskedNames();
         due("a first net", Kit.tell(x, 0, "nodes 1;"), 0);
@@ -79,16 +94,13 @@ public final class TextsTest {
         Kit.write(x, "bad");
         due("fault", x.text(1, NONE), NONE);
         due("fault(0)", x.fault(0), 1);
+        refused(x, "a third net", 0, NONE);
+        refused(x, "no such net", 0, 2);
+        refused(x, "no such net", 0, -2);
+        refused(x, "no such sort", 3, NONE);
+        refused(x, "no such sort", -1, NONE);
+        refused(x, "no such run", 1, 0);
         Kit.write(x, "nodes 6;");
-        due("a third net", x.text(0, NONE), -2);
-        due("FAULT 0 behind -2", x.fault(0), 0);
-        due("no place behind -2", x.fault(1), NONE);
-        due("no text is read", x.end(8), 8);
-        due("no such net", x.text(0, 2), -2);
-        due("no such net", x.text(0, -2), -2);
-        due("no such sort", x.text(3, NONE), -2);
-        due("no such sort", x.text(-1, NONE), -2);
-        due("no such run", x.text(1, 0), -2);
         due("in the place of the first", x.text(0, 0), 0);
         due("its nodes", x.net(0, 0), 6);
         due("nodes of the other one", x.net(1, 0), 2);
