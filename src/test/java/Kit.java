@@ -1,9 +1,18 @@
 /** What the tests share: a tally of wrong answers, and texts brought to the tape. */
 final class Kit {
+    /** Numbers that no argument of the document's calls can be, but for a seed or a tape's bytes. */
+    static final int[] FAR_OUT = {Integer.MIN_VALUE, Integer.MIN_VALUE + 1, -1000, 1000, Integer.MAX_VALUE - 1, Integer.MAX_VALUE};
+
     private static int wrong = 0;
     private static int looked = 0;
+    private static String sentence = "";
 
     private Kit() {
+    }
+
+    /** The sentence of the document that the answers from here on stand for; each wrong one tells it. */
+    static void of(String promise, String words) {
+        sentence = promise + " (\"" + words + "\"): ";
     }
 
     static void due(String call, long got, long want) {
@@ -11,7 +20,7 @@ final class Kit {
         if (got != want) {
             wrong++;
             if (wrong <= 40) {
-                System.out.println(call + " answered " + got + ", due is " + want);
+                System.out.println(sentence + call + " answered " + got + ", due is " + want);
             }
         }
     }
@@ -69,6 +78,11 @@ final class Kit {
         due("fault of " + text, x.fault(0), number);
         due("place in " + text, x.fault(1), number == 0 ? -1 : place);
         due("count behind " + text, x.count(sort), number == 0 ? 1 : 0);
+    }
+
+    /** Numbers of which there is none where there are so many, from 0 on. */
+    static int[] noneOf(int many) {
+        return new int[] {Integer.MIN_VALUE, -1000, -2, -1, many, many + 1, 1000, Integer.MAX_VALUE};
     }
 
     static int name(String letters) {
