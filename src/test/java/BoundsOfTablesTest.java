@@ -82,7 +82,15 @@ public final class BoundsOfTablesTest {
             + "route 0 a 1 0;route 0 a 2 0;route 0 a 3 0;route 0 a 4 0;route 0 a 5 0;route 5 a 4 0;";
         alone(of(slow), 0, 1, 0, 3, 99, 12);
         alone(of(slow), 5, 1, 0, 2, 18, 2);
+        // The last nack would come to 5 in minute 100: nothing is sent by it any more.
+        String slower = "nodes 6;life 99;link 0 1 9;link 1 2 9;link 1 3 9;link 1 4 9;link 4 2 9;link 1 5 5;link 5 3 7;"
+            + "route 0 a 1 0;route 1 a 2 0;route 1 a 3 1;route 1 a 4 2;route 1 a 5 3;route 4 a 2 0;route 5 a 3 0;";
+        alone(of(slower), 0, 1, 0, 3, 99, 12);
+        alone(of(slower.replace("link 1 5 5;", "link 1 5 4;")), 0, 1, 0, 3, 99, 13);
         alone(of(RING), 0, 1, 0, 2, 12, 12);
+        Kit.of("Promise 13, alone", "1: the minute (NONE: 0)");
+        alone(of("nodes 1;serve 0 a 0;"), 0, 1, 0, 1, 0, 0);
+        alone(of(PAIR + "life 1;"), 0, 1, 0, 3, 1, 2);
     }
 
     private static void aloneOfNoName() {
@@ -302,6 +310,11 @@ public final class BoundsOfTablesTest {
     }
 
     private static void trailOfNone() {
+        Kit.of("Promise 16, trail", "how many (k NONE), the k-th, or (k 20) how it ends: 1 SERVED, 2 it can't go ON, 3 it was there already");
+        AskedNames one = of("nodes 1;");
+        due("how many", one.trail(0, 0, 1, NONE), 1);
+        due("the first", one.trail(0, 0, 1, 0), 0);
+        due("how it ends", one.trail(0, 0, 1, 20), 2);
         Kit.of("Promise 16, trail", "NONE: not so many, there is none such (of either; a number that is no NAME).");
         AskedNames x = of(PAIR);
         for (int k : new int[] {NONE, 0, 20}) {
@@ -339,6 +352,16 @@ public final class BoundsOfTablesTest {
         AskedNames round = of("nodes 6;link 0 5 9;link 0 1 1;link 1 2 1;link 2 3 1;link 3 4 1;link 4 5 1;");
         due("five links are less than one", round.far(0, 0, 5), 5);
         due("and back", round.far(0, 5, 0), 5);
+        AskedNames slow = of("link 0 1 1;link 0 2 1;link 1 2 9;");
+        due("two links are less than one", slow.far(0, 1, 2), 2);
+        due("one link is less than two", slow.far(0, 0, 1), 1);
+        due("though a longer way is told behind it", slow.far(0, 0, 2), 1);
+        AskedNames all = of(ALL_LINKS);
+        for (int a = 0; a < 6; a++) {
+            for (int b = 0; b < 6; b++) {
+                due("with all links " + a + " " + b, all.far(0, a, b), a == b ? 0 : 1);
+            }
+        }
         AskedNames parts = of("nodes 5;link 0 1 1;link 2 3 1;");
         due("no way", parts.far(0, 0, 2), NONE);
         due("no way", parts.far(0, 3, 1), NONE);
@@ -422,6 +445,14 @@ public final class BoundsOfTablesTest {
         fit(FORK, run, "got 3 2;", 3, NONE, 1, 2, 3);
         fit(FORK, "", "lost 0;", NONE, NONE, 0, 1, 2, 3);
         fit(FORK, "", "got 0 0;", NONE);
+        fit(FORK, "ask 0 zz;".repeat(39) + "ask 1 a;", "got 39 0;lost 38;", 0, NONE, 0, 1, 2, 3);
+        // An ask of another run that got data leaves nothing behind for one that is not done.
+        AskedNames x = Kit.told(FORK, "ask 1 a;");
+        Kit.tell(x, 1, "ask 5 a;");
+        Kit.tell(x, 2, "lost 0;");
+        due("none fits the first run", x.fits(0, 0, 0, 0), 0);
+        due("all fit the second run", x.fits(0, 1, 0, 0), 5);
+        due("no mean of it", x.after(0, 1, 7), NONE);
     }
 
     private static void fitsOfDeedsOfTheLink() {
@@ -430,14 +461,18 @@ public final class BoundsOfTablesTest {
         fit(FORK, "cut 0 1;ask 0 b;wait 2;", "lost 1;", 1, 0, 1);
         fit(FORK, "cut 0 1;ask 0 b;wait 2;", "got 1 2;", 1, NONE, 2, 3);
         fit(FORK, "ask 0 b;wait 2;cut 0 1;mend 0 1;", "got 0 2;", 0, NONE, 0, 2, 3);
-        // Nor does the net change by it: its routes are as long as ever.
-        due("links", of(FORK).net(0, 2), 4);
+        // No link at all is no link that is away: it can't be cut, nor does anything go over it.
+        fit(FORK, "cut 2 3;ask 1 a;", "lost 1;", 1, NONE, 0, 1, 2, 3);
+        fit(FORK, "mend 2 3;ask 1 a;", "lost 1;", 1, NONE, 0, 1, 2, 3);
+        fit(FORK + "route 2 a 3 0;", "ask 2 a;wait 9;", "lost 0;", 0, NONE, 0, 1, 2, 3);
+        fit(FORK + "route 2 a 3 0;route 2 a 0 1;", "ask 2 a;wait 9;", "got 0 4;", 0, NONE, 2, 3);
     }
 
     private static void fitsByWhichAsk() {
         Kit.of("Promise 19, fits, by Term 4", "the greater number by which it GOT DATA, or not, is least, of several the least");
         fit(FORK, "wait 1;ask 0 c;ask 0 b;ask 0 a;wait 2;", "", 1, NONE, 0, 1, 2, 3);
         fit(FORK, "wait 1;ask 0 c;ask 0 b;ask 0 d;ask 0 d;wait 4;", "", 3, NONE, 0, 1, 2, 3);
+        fit(FORK, "ask 0 d;ask 0 b;ask 0 a;wait 4;", "", 0, NONE, 0, 1, 2, 3);
         fit(FORK, "ask 0 d;ask 0 b;ask 0 a;wait 4;", "lost 0;", 2, 0, 3);
         fit(FORK, "ask 0 d;ask 0 b;ask 0 a;wait 4;", "got 0 4;", 1, NONE, 1, 2);
         // By none of them data are got, or by all: all asks are alike.
@@ -481,6 +516,7 @@ public final class BoundsOfTablesTest {
         drawnByHand();
         drawnUpTo60();
         drawnNonces();
+        drawnLetters();
         drawnAsTold();
         drawnOfNone();
     }
@@ -517,8 +553,9 @@ public final class BoundsOfTablesTest {
 
     private static void drawnUpTo60() {
         Kit.of("Promise 20, drawn, by Term 4", "n times, 0 to 60");
-        AskedNames x = of("nodes 3;link 0 1 1;link 1 2 1;");
+        AskedNames x = new AskedNames();
         for (int seed : SEEDS) {
+            x = of("nodes 3;link 0 1 1;link 1 2 1;");
             Numbers numbers = new Numbers(seed);
             int minute = 0;
             int down = 0;
@@ -543,7 +580,6 @@ public final class BoundsOfTablesTest {
 
     /** Seeds by which waits would go beyond minute 99, and by which it is just reached. */
     private static void drawnWaitsUpTo99() {
-        AskedNames x = of("nodes 1;");
         int refused = 0;
         int reached = 0;
         for (int seed = 0; seed < 4000; seed++) {
@@ -559,7 +595,7 @@ public final class BoundsOfTablesTest {
             if (beyond > 0 || minute == 99) {
                 refused += beyond;
                 reached += minute == 99 ? 1 : 0;
-                x = of("nodes 1;");
+                AskedNames x = of("nodes 1;");
                 due("minute of seed " + seed * 7919, x.drawn(0, seed * 7919, 60, 0), minute);
             }
         }
@@ -611,11 +647,40 @@ public final class BoundsOfTablesTest {
         Kit.due("many were dead", most > 12, true);
     }
 
+    private static void drawnLetters() {
+        Kit.of("Promise 20, drawn, by Term 4", "if a number below 3 is not 0 and it has fewer than 4 letters, one letter behind it, a or b by this being 1 or 2");
+        // Asks alone, ahead of the first wait or cut: an entry at 0 of each name and wish.
+        for (String word : new String[] {"a", "ab", "abc", "abcd", "zzz", "zzzz"}) {
+            String net = "nodes 2;link 0 1 9;route 0 " + word + " 1 0;serve 1 " + word + " 1;";
+            int most = 0;
+            for (int seed = 0; seed < 2000; seed++) {
+                Numbers numbers = new Numbers(seed);
+                Set<String> entries = new HashSet<>();
+                int asks = 0;
+                for (int kind = numbers.below(10); kind <= 4 && asks < 60; kind = numbers.below(10)) {
+                    boolean at0 = numbers.below(2) == 0;
+                    numbers.below(1);
+                    int letter = numbers.below(3);
+                    String name = word + (word.length() < 4 ? letter : 0) + (kind == 4 ? "!" : "");
+                    if (at0) {
+                        entries.add(name);
+                    }
+                    asks++;
+                }
+                if (entries.size() > 1) {
+                    due("entries of " + word + " by seed " + seed, of(net).drawn(0, seed, asks, 10), entries.size());
+                    most = Math.max(most, entries.size());
+                }
+            }
+            Kit.due("many entries of " + word, most >= (word.length() < 4 ? 4 : 2), true);
+        }
+    }
+
     private static void drawnAsTold() {
         Kit.of("Promise 20, drawn", "DRAWN, n times, what as state().");
         String net = "nodes 4;life 9;link 0 1 1;link 1 2 2;link 2 3 1;link 3 0 2;route 0 a 1 3;route 0 a 3 2;route 1 a 2 0;route 2 a 3 0;"
-            + "route 3 a 2 1;route 3 a 0 0;serve 2 a 3;serve 1 abcd 9;serve 0 zzz 1;room 0 1;";
-        String[] words = {"a", "abcd", "zzz"};
+            + "route 3 a 2 1;route 3 a 0 0;serve 2 a 3;serve 1 aa 7;serve 1 abcd 9;serve 3 aab 1;room 0 1;";
+        String[] words = {"a", "aa", "abcd", "aab"};
         int[][] links = {{0, 1}, {1, 2}, {2, 3}, {3, 0}};
         for (int seed = -20; seed < 60; seed++) {
             Numbers numbers = new Numbers(seed * 104729);
@@ -625,7 +690,7 @@ public final class BoundsOfTablesTest {
                 int kind = numbers.below(10);
                 if (kind <= 4) {
                     int node = numbers.below(4);
-                    String word = words[numbers.below(3)];
+                    String word = words[numbers.below(4)];
                     int letter = numbers.below(3);
                     run.append(kind == 4 ? "fresh " : "ask ").append(node).append(" ").append(word);
                     run.append(letter == 0 || word.length() == 4 ? "" : letter == 1 ? "a" : "b").append(";");
