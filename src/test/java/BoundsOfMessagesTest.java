@@ -346,6 +346,8 @@ public final class BoundsOfMessagesTest {
         }
         Kit.refused(Kit.told(net, "ask 0 b;"), 0, 0, 1, 1, 0);
         Kit.refused(Kit.told("link 0 1 1;route 0 ab 1 0;", "ask 0 a;"), 0, 0, 1, 1, 0);
+        // Nor where it never had a link.
+        Kit.refused(Kit.told("link 0 1 1;route 0 a 1 0;route 0 ab 2 0;", "ask 0 ab;"), 0, 0, 1, 1, 0);
     }
 
     private static void wayByMeasure() {
@@ -357,6 +359,12 @@ public final class BoundsOfMessagesTest {
             due("measured", x.state(0, 0, 2, 102), 2);
             due("way by cost " + cost, x.entry(0, 0, 3, 0, 0, 4), cost <= 2 ? 1 : 2);
         }
+        // What was measured last counts, be it more or less.
+        AskedNames z = Kit.told("life 50;room 1 1;link 0 1 1;link 1 2 3;route 0 a 1 0;route 1 a 2 0;serve 1 b 9;route 0 b 1 0;serve 2 a 9;",
+            "ask 0 b;wait 2;ask 0 a;wait 8;ask 0 bb;wait 2;");
+        due("measured", z.state(0, 0, 2, 101), 2);
+        due("measured as more", z.state(0, 0, 4, 101), 8);
+        due("measured as less", z.state(0, 0, 6, 101), 2);
         // What was measured at another node, or of this one there, does not count.
         AskedNames y = Kit.told("link 0 1 1;link 0 2 1;link 1 2 1;route 1 b 0 0;route 0 a 1 3;route 0 a 2 4;serve 0 b 9;", "ask 1 b;wait 2;ask 0 a;");
         due("measured at 1 of 0", y.state(0, 0, 2, 110), 2);
@@ -387,6 +395,9 @@ public final class BoundsOfMessagesTest {
         dataMeasureTheFirst();
         dataGoToAllThatAreIn();
         dataForAllEntriesOfTheName();
+        dataByEntriesAsMade();
+        dataByTheirOwnFreshness();
+        dataGoBackToWhereTheyCameFrom();
         dataWithoutRoom();
     }
 
@@ -460,6 +471,59 @@ public final class BoundsOfMessagesTest {
         }
     }
 
+    /** Two entries at 3, one for each wish, have 1 and 2 in them, which bring the data to 0 in one minute. */
+    private static void dataByEntriesAsMade() {
+        Kit.of("Promise 9, state, by Term 2", "then of each ENTRY, as made: DATA are sent to NODES IN");
+        String net = "nodes 5;life 50;link 0 1 1;link 0 2 1;link 1 3 1;link 2 3 1;link 3 4 1;route 0 a 1 0;route 0 a 2 0;"
+            + "route 1 a 3 0;route 2 a 3 0;route 3 a 4 0;serve 4 a 9;";
+        for (String[] verbs : new String[][] {{"ask", "fresh"}, {"fresh", "ask"}}) {
+            for (int first = 1; first <= 2; first++) {
+                int second = 3 - first;
+                AskedNames x = Kit.told(net, "cut 0 " + second + ";" + verbs[0] + " 0 a;mend 0 " + second + ";cut 0 " + first + ";"
+                    + verbs[1] + " 0 a;mend 0 " + first + ";wait 3;wait 1;wait 2;");
+                due("the first entry at 3 has in it", x.entry(0, 0, 7, 3, 0, 2), 1 << first);
+                due("the second one", x.entry(0, 0, 7, 3, 1, 2), 1 << second);
+                due("one answer is for both", x.state(0, 0, 8, 13), 0);
+                // Where the second one's data were ahead, nothing would be measured: they are not from OUT of the first entry at 0.
+                due("measured by the first one's data", x.state(0, 0, 9, 100 + first), 6);
+                due("not by the second one's", x.state(0, 0, 9, 100 + second), NONE);
+                due("dropped at 3 and at 0", x.after(0, 0, 4), 2);
+                Kit.got(x, 1, 6, 4, 0);
+                Kit.got(x, 4, 6, 4, 0);
+            }
+        }
+    }
+
+    /** Other data, stale or fresh the other way round, were sent last and come in the same minute. */
+    private static void dataByTheirOwnFreshness() {
+        Kit.of("Promise 12, why, by Term 2", "all of WISH 0, and of 1, if they are FRESH: if there are none, no more happens");
+        String net = "life 50;link 0 1 3;link 0 2 3;route 0 a 1 0;route 0 b 2 0;serve 1 a ";
+        AskedNames x = Kit.told(net + "0;serve 2 b 50;", "fresh 0 a;ask 0 b;wait 6;");
+        Kit.nothingYet(x, 0);
+        Kit.got(x, 1, 6, 2, 0);
+        due("stale data are dropped", x.after(0, 0, 4), 1);
+        AskedNames y = Kit.told(net + "50;serve 2 b 0;", "fresh 0 a;ask 0 b;wait 6;");
+        Kit.got(y, 0, 6, 1, 0);
+        Kit.got(y, 1, 6, 2, 0);
+        due("fresh until", y.stored(0, 0, 3, 0, 0, 1), 53);
+        due("fresh until", y.stored(0, 0, 3, 0, 1, 1), 3);
+    }
+
+    private static void dataGoBackToWhereTheyCameFrom() {
+        Kit.of("Promise 21, after, by Term 2", "DATA are sent to NODES IN");
+        // At 0 an entry for any went out to 1, another one for fresh ones alone has 1 in it: one answer from 1 is for both.
+        AskedNames x = Kit.told("nodes 4;life 30;link 0 1 1;link 1 2 5;link 0 3 9;route 0 a 1 0;route 0 a 3 1;route 1 a 2 0;route 1 a 0 1;serve 2 a 50;",
+            "ask 0 a;wait 1;cut 1 2;fresh 1 a;mend 1 2;wait 1;wait 9;wait 1;wait 1;wait 7;");
+        Kit.entry(x, 6, 0, 0, 1, 0, 0, 1, 1, 2, 0, 30);
+        Kit.entry(x, 6, 0, 1, 1, 1, 2, 0, 3, 8, 2, 32);
+        Kit.got(x, 3, 11, 2, 0);
+        Kit.got(x, 0, 12, 2, 0);
+        due("none dropped before", x.state(0, 0, 8, 1), 2);
+        due("dropped at 1, from where they had come", x.after(0, 0, 4), 1);
+        due("sent", x.after(0, 0, 0), 8);
+        due("no entries", x.state(0, 0, 10, 2), 0);
+    }
+
     private static void dataWithoutRoom() {
         Kit.of("Promise 10, stored, by Term 2", "DATA are in N's STORE, used last (in place of what it had of the NAME), if there is ROOM");
         AskedNames x = Kit.told("room 1 0;link 0 1 1;link 1 2 1;route 0 a 1 0;route 1 a 2 0;serve 2 a 9;", "ask 0 a;wait 4;ask 1 a;wait 2;");
@@ -472,6 +536,8 @@ public final class BoundsOfMessagesTest {
 
     private static void nacks() {
         nackForTheWayOut();
+        nackByItsOwnWish();
+        nackGoesBackToWhereItCameFrom();
         nackToAllThatAreIn();
         answersInRisingRow();
     }
@@ -514,6 +580,33 @@ public final class BoundsOfMessagesTest {
         }
         due("nothing is measured", x.state(0, 0, 9, 145), NONE);
         due("nothing is stored", x.state(0, 0, 9, 24), 0);
+    }
+
+    /** Another wish was refused last. */
+    private static void nackByItsOwnWish() {
+        Kit.of("Promise 12, why, by Term 2", "if there is an ENTRY of the NAME and WISH, OUT of which is X: it goes ON");
+        for (String run : new String[] {"fresh 0 a;ask 0 b;wait 2;", "ask 0 a;fresh 0 b;wait 2;", "ask 0 a;fresh 0 a;wait 2;"}) {
+            AskedNames x = Kit.told("link 0 1 1;route 0 a 1 0;route 0 b 1 0;", run);
+            Kit.refused(x, 0, 2, 2, 1, 1);
+            Kit.refused(x, 1, 2, 2, 1, 1);
+        }
+    }
+
+    private static void nackGoesBackToWhereItCameFrom() {
+        Kit.of("Promise 21, after, by Term 2", "a NACK is sent to NODES IN");
+        // The second ask at 1 and the ask at 0 go out to one another and join; a late nack for the first ask at 1 sends the second on to 3.
+        AskedNames x = Kit.told("nodes 4;life 50;room 1 0;link 0 1 4;link 1 2 1;link 1 3 1;route 1 a 0 0;route 1 a 2 5;route 1 a 3 6;route 0 a 1 0;serve 2 a 50;",
+            "ask 1 a;cut 0 1;fresh 1 a;mend 0 1;wait 2;cut 1 2;ask 1 a;wait 2;ask 0 a;wait 2;wait 2;wait 2;wait 4;wait 4;");
+        Kit.got(x, 0, 2, 2, 0);
+        Kit.got(x, 2, 2, 2, 0);
+        Kit.entry(x, 10, 0, 0, 1, 0, 2, 1, 1, 2, 4, 54);
+        Kit.entry(x, 11, 1, 0, 1, 0, 1, 1, 3, 9, 8, 52);
+        Kit.refused(x, 6, 10, 2, 1, 3);
+        Kit.refused(x, 8, 14, 3, 1, 3);
+        due("on its way to 1, from where it had come", x.state(0, 0, 13, 1), 1);
+        due("sent", x.after(0, 0, 0), 10);
+        due("joined", x.after(0, 0, 2), 2);
+        due("nothing is left", x.state(0, 0, 14, 1) + x.state(0, 0, 14, 2), 0);
     }
 
     private static void nackForTheWayOut() {

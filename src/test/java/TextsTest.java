@@ -17,6 +17,7 @@ public final class TextsTest {
         deeds();
         facts();
         images();
+        readme();
         Kit.finish();
     }
 
@@ -389,5 +390,17 @@ public final class TextsTest {
         due("nodes", x.net(0, 0), 5);
         Kit.due("again(3)", x.again(3), false);
         Kit.due("again(-1)", x.again(-1), false);
+    }
+
+    /** The calls that README.md shows, so that it stays true. */
+    private static void readme() {
+        AskedNames x = new AskedNames();
+        due("feed", x.feed(0x6e6f6465, 0x7320323b, 0x73657276, 0x65203120, 0x6120393b), 20);
+        due("text of the net", x.text(0, NONE), 0);
+        due("feed", x.feed(0x61736b20, 0x3120613b, 0x77616974, 0x20313b20, 0x20202020), 20);
+        due("text of the run", x.text(1, NONE), 0);
+        due("stop", x.stop(0, 0), 2);
+        due("why", x.why(0, 0, 0, 0), 1);
+        due("ab", Kit.name("ab"), 29);
     }
 }
